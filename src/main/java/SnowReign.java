@@ -735,17 +735,30 @@ public final class SnowReign {
     }
 
     private boolean wouldFit(int i, int which, int v) {
-        int last = 0;
+        trial.copyOf(now);
+        trial.row.figures[i].put(which, v);
+        int last = lastSeen();
+        for (int n = 0; n <= last; n++) {
+            if (!isAsSeen(n, trial.row.decreed())) {
+                return false;
+            }
+            trial.pass();
+        }
+        return true;
+    }
+
+    private int lastSeen() {
+        int last = NONE;
         for (int k = 0; k < seenNumber; k++) {
             last = Math.max(last, seenDays[k]);
         }
-        trial.copyOf(now);
-        trial.row.figures[i].put(which, v);
-        trial.foresee(decrees[0], last);
+        return last;
+    }
+
+    private boolean isAsSeen(int n, int decreed) {
         for (int k = 0; k < seenNumber; k++) {
-            int decreed = decrees[0][seenDays[k]];
             int seen = seenDecrees[k] == NOBODY_SEEN ? NONE : seenDecrees[k];
-            if (decreed != seen) {
+            if (seenDays[k] == n && seen != decreed) {
                 return false;
             }
         }
@@ -811,16 +824,15 @@ public final class SnowReign {
         }
 
         int meltsBy(int warmth) {
-            switch (kind) {
-                case PACKED:
-                    return Math.min(size, warmth / 2);
-                case WET:
-                    return Math.min(size, 2 * warmth);
-                case ICED:
-                    return Math.min(size, Math.max(0, warmth / 2 - 1));
-                default:
-                    return Math.min(size, warmth);
+            int by = warmth;
+            if (kind == PACKED) {
+                by = warmth / 2;
+            } else if (kind == WET) {
+                by = 2 * warmth;
+            } else if (kind == ICED) {
+                by = warmth < 2 ? 0 : warmth / 2 - 1;
             }
+            return by < size ? by : size;
         }
 
         int tipsBy(int wind) {
@@ -1014,7 +1026,8 @@ public final class SnowReign {
     }
 
     private static final class Tape {
-        static final int END = 0, NAME = 1, NUMBER = 2, SIGN = 3, WRONG = 4;
+        // Those below SIGN are as long as may be, the others have one byte or none.
+        static final int NAME = 0, NUMBER = 1, SIGN = 2, WRONG = 3, END = 4;
 
         final byte[] bytes;
         int length;
@@ -1045,15 +1058,15 @@ public final class SnowReign {
             place = at;
             if (at >= length) {
                 token = END;
-            } else if (isLetter(bytes[at])) {
-                takeName();
-            } else if (isDigit(bytes[at])) {
-                takeNumber();
-            } else if (bytes[at] == ';') {
-                token = SIGN;
+                return;
+            }
+            token = sortOf(bytes[at]);
+            at++;
+            while (at < length && token < SIGN && sortOf(bytes[at]) == token) {
                 at++;
-            } else {
-                token = WRONG;
+            }
+            if (token == NUMBER) {
+                weigh();
             }
         }
 
@@ -1069,31 +1082,25 @@ public final class SnowReign {
             return true;
         }
 
-        private void takeName() {
-            while (at < length && isLetter(bytes[at])) {
-                at++;
+        private void weigh() {
+            if (at - place > 2) {
+                token = WRONG;
+                return;
             }
-            token = NAME;
-        }
-
-        private void takeNumber() {
             value = 0;
-            while (at < length && isDigit(bytes[at])) {
-                // More figures than two are no NUMBER, whatever they would be worth.
-                if (at - place < 2) {
-                    value = 10 * value + (bytes[at] - '0');
-                }
-                at++;
+            for (int k = place; k < at; k++) {
+                value = 10 * value + (bytes[k] - '0');
             }
-            token = at - place > 2 ? WRONG : NUMBER;
         }
 
-        private static boolean isLetter(byte c) {
-            return c >= 'a' && c <= 'z';
-        }
-
-        private static boolean isDigit(byte c) {
-            return c >= '0' && c <= '9';
+        private static int sortOf(byte c) {
+            if (c >= 'a' && c <= 'z') {
+                return NAME;
+            }
+            if (c >= '0' && c <= '9') {
+                return NUMBER;
+            }
+            return c == ';' ? SIGN : WRONG;
         }
     }
 

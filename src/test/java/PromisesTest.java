@@ -157,6 +157,14 @@ public final class PromisesTest {
         faulty("we 1 1;", 0, 2);
         faulty("days 1 1 1;", 0, 2);
         faulty("Wet 1 1;", 0, 1);
+        faulty("set 1 1;", 0, 2);
+        faulty("z", 0, 2);
+        faulty("a", 0, 2);
+        faulty("{", 0, 1);
+        faulty("`", 0, 1);
+        faulty("wet 1/", 5, 1);
+        faulty("wet 1:", 5, 1);
+        faulty("wet 9 0:", 7, 1);
         faulty(";", 0, 2);
         faulty(" 7", 1, 2);
         faulty("777", 0, 1);
@@ -407,6 +415,8 @@ public final class PromisesTest {
         due.is("20: decree(8)", x.decree(8), 3);
         due.is("20: decree(9), as it leans by more than it has", x.decree(9), NONE);
         due.is("20: decree(61)", x.decree(61), BAD);
+        due.is("20: decree(60)", x.decree(60), NONE);
+        due.is("20: decree(60) of one that STANDS", told("packed 9 23;").decree(60), 3);
         due.is("20: decree(-1)", x.decree(-1), BAD);
 
         due.is("21: coup()", x.coup(), 4);
@@ -446,6 +456,15 @@ public final class PromisesTest {
         SnowReign same = told("wet 0 20; powder 5 20; powder 10 20;");
         due.is("23: bucket(0), of several the first that STANDS", same.bucket(0), 1);
         due.is("23: bucket(1), of several", same.bucket(1), 0);
+        SnowReign long60 = told("powder 40 20;");
+        due.is("23: bucket(0) of 60 DAYS", long60.bucket(0), 0);
+        due.is("23: bucket(1) of 60 DAYS", long60.bucket(1), 0);
+        long60.alter(0, 1, 59);
+        due.is("23: bucket(0) by one DAY", long60.bucket(0), 0);
+        long60.alter(0, 1, 60);
+        due.is("23: bucket(0) by none", long60.bucket(0), NONE);
+        long60.clear(0);
+        due.is("23: bucket(0) of none", long60.bucket(0), NONE);
 
         SnowReign z = told("powder 3 20; packed 50 20; packed 40 20;");
         due.is("24: swap(10, 0), of several the least", z.swap(10, 0), 1);
@@ -466,6 +485,13 @@ public final class PromisesTest {
         SnowReign nobody = told("powder 3 20; powder 5 20;");
         due.is("24: swap(10, 0) till nobody", nobody.swap(10, 0), 1);
         due.is("24: swap(10, 1) till nobody", nobody.swap(10, 1), 1);
+        due.is("24: swap(60, 0)", nobody.swap(60, 0), 1);
+        due.is("24: swap(60, 1)", nobody.swap(60, 1), 1);
+        nobody.alter(0, 1, 1);
+        due.is("24: swap(1, 0)", nobody.swap(1, 0), 1);
+        due.is("24: swap(1, 1)", nobody.swap(1, 1), 0);
+        nobody.clear(1);
+        due.is("24: swap(1, 0) of one", nobody.swap(1, 0), NONE);
 
         SnowReign w = told("powder 5 20; wet 7 20; powder 50 20; day 1 1 8; day 2 1 0;");
         due.is("25: lee(2, 0)", w.lee(2, 0), 1);
@@ -482,6 +508,8 @@ public final class PromisesTest {
         SnowReign tie = told("iced 7 20; day 2 0 8; day 4 0 8;");
         due.is("25: lee(5, 0), of several the first", tie.lee(5, 0), 2);
         due.is("25: lee(5, 1), of several", tie.lee(5, 1), 1);
+        due.is("25: lee(60, 0)", told("iced 3 20; day 0 0 8;").lee(60, 0), 0);
+        due.is("25: lee(60, 1)", told("iced 3 20; day 6 0 8;").lee(60, 1), 1);
     }
 
     private static void longest() {
@@ -544,6 +572,8 @@ public final class PromisesTest {
         part("29: luck(5, 1)", x.luck(5, 1, 0), x.luck(5, 1, 1), 1, 2);
         part("29: luck(5, 2)", x.luck(5, 2, 0), x.luck(5, 2, 1), 1, 4);
         part("29: luck(3, 1)", x.luck(3, 1, 0), x.luck(3, 1, 1), 7, 10);
+        part("29: luck(1, 1)", x.luck(1, 1, 0), x.luck(1, 1, 1), 9, 10);
+        part("29: luck(9, 1)", x.luck(9, 1, 0), x.luck(9, 1, 1), 1, 10);
         part("29: luck(0, 2)", x.luck(0, 2, 0), x.luck(0, 2, 1), 1, 1);
         part("29: luck(0, 3)", x.luck(0, 3, 0), x.luck(0, 3, 1), 0, 1);
         part("29: luck(10, 1)", x.luck(10, 1, 0), x.luck(10, 1, 1), 0, 1);
@@ -552,6 +582,8 @@ public final class PromisesTest {
         part("30: mean(3, 1)", x.mean(3, 1, 0), x.mean(3, 1, 1), 7, 5);
         x.alter(0, 1, 9);
         part("30: mean(5, 1) of 9", x.mean(5, 1, 0), x.mean(5, 1, 1), 11, 2);
+        part("30: mean(1, 1) of 9", x.mean(1, 1, 0), x.mean(1, 1, 1), 15, 2);
+        part("30: mean(10, 1) of 9", x.mean(10, 1, 0), x.mean(10, 1, 1), 3, 1);
         part("30: mean(3, 2) of 9", x.mean(3, 2, 0), x.mean(3, 2, 1), 112, 25);
         x.roll(1, 1);
         part("29: luck(10, 2) of the next", x.luck(10, 2, 0), x.luck(10, 2, 1), 1, 1);
@@ -643,6 +675,17 @@ public final class PromisesTest {
         x.see(2, 9);
         due.is("36: ask(0, 0) of one", x.ask(0, 0), NONE);
         due.is("36: ask(0, 1) of one", x.ask(0, 1), NONE);
+        x.forget(1);
+        x.see(2, 1);
+        due.is("36: ask(0, 0) of powder alone", x.ask(0, 0), NONE);
+        SnowReign iced = told("wet 12 20;");
+        weather(iced, 9, 4);
+        iced.see(3, 0);
+        due.is("33: kinds(0) of iced alone", iced.kinds(0), 8);
+        due.is("36: ask(0, 0) of iced alone", iced.ask(0, 0), NONE);
+        iced.forget(0);
+        due.is("36: ask(0, 0) of all, by what stands", iced.ask(0, 0), 2);
+        due.is("36: ask(0, 1) of all, by what stands", iced.ask(0, 1), 2);
         x.see(2, 3);
         due.is("36: ask(0, 0) of none", x.ask(0, 0), NONE);
         due.is("36: ask(1, 0)", x.ask(1, 0), BAD);
@@ -669,6 +712,7 @@ public final class PromisesTest {
         due.is("37: drift(1, 1, 0)", x.drift(1, 1, 0), 1);
         due.is("37: drift(1, 2, 1)", x.drift(1, 2, 1), 14);
         due.is("37: drift(1, 3, 1)", x.drift(1, 3, 1), 11);
+        due.is("37: drift(1, 60, 1)", x.drift(1, 60, 1), 0);
         due.is("37: drift(0, 1, 1)", x.drift(0, 1, 1), 41);
         due.is("37: drift(0, 1, 0)", x.drift(0, 1, 0), 3);
         due.is("37: bit 31 is not got", x.drift(Integer.MIN_VALUE, 1, 1), 41);
@@ -809,6 +853,9 @@ public final class PromisesTest {
         due.is("42: the 2nd is no KIND", x.read(1, 2, 0, 20), -21);
         due.is("42: none came of it", x.rule(0), 0);
         due.is("42: the ones ahead of it", x.read(1, 2, 0, 1), 1);
+        x.sheet(3, 0, 4);
+        due.is("42: read(3, 0, 0, 2)", x.read(3, 0, 0, 2), 2);
+        due.is("42: rule(0) then", x.rule(0), 3);
     }
 
     private static void counts() {
