@@ -75,7 +75,7 @@ final class Pair {
         }
     }
 
-    private static long invoke(Method m, Object on, int[] args) {
+    static long invoke(Method m, Object on, int[] args) {
         try {
             return ((Number) m.invoke(on, Arrays.stream(args).boxed().toArray())).longValue();
         } catch (InvocationTargetException e) {
