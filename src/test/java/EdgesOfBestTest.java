@@ -90,6 +90,9 @@ public final class EdgesOfBestTest {
         edges.at(25, "The day of the week whose WIND had better be 4", "tell(packed 1 20;day 6 0 8;)").leaves("lee(6, 0)", NONE).leaves("lee(7, 0)", 6)
             .leaves("lee(7, 1)", 1).leaves("lee(60, 0)", 6).leaves("lee(60, 1)", 1);
         edges.at(25, "The day of the week whose WIND had better be 4", "tell(packed 1 20;day 6 0 0;)").leaves("lee(6, 0)", NONE).leaves("lee(7, 0)", 6);
+        edges.at(25, "whose WIND had better be 4", "tell(powder 1 21;day 0 0 8;)").leaves("lee(1, 0)", 0).leaves("lee(1, 1)", 1);
+        edges.at(25, "whose WIND had better be 4", "tell(powder 1 19;day 0 0 0;)").leaves("lee(1, 0)", 0).leaves("lee(1, 1)", 1);
+        edges.at(25, "whose WIND had better be 4", "tell(powder 1 22;powder 1 18;day 0 0 5;)").leaves("lee(1, 0)", NONE).leaves("lee(1, 1)", NONE);
         edges.at(25, WRAP, "set(0, 1, 8)", "days(6)", "roll(1, 1)").is("lee(1, 0)", NONE).is("lee(2, 0)", 0).is("lee(2, 1)", 1);
         edges.at(25, "behind n DAYS (0 to 60)", Scenes.atTheLastDay("roll(1, 1)", "set(0, 1, 8)")).leaves("lee(2, 0)", NONE).leaves("lee(3, 0)", 0).leaves("lee(60, 0)", 0);
     }

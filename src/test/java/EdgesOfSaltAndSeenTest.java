@@ -176,6 +176,8 @@ public final class EdgesOfSaltAndSeenTest {
         edges.at(36, fewer, "roll(0, 31)", "see(16, 9)").leaves("kinds(0)", 4).leaves("ask(0, 0)", NONE).leaves("ask(0, 1)", NONE);
         edges.at(36, fewer, "roll(0, 31)", "see(0, 1)").leaves("kinds(0)", 0).leaves("ask(0, 0)", NONE).leaves("ask(0, 1)", NONE);
         edges.at(36, fewer, "weather(0, 5)", "roll(0, 9)", "see(1, 1)").leaves("kinds(0)", 5).leaves("ask(0, 0)", NONE).leaves("ask(0, 1)", NONE);
+        edges.at(36, fewer, "set(0, 1, 5)", "roll(0, 3)", "see(1, 1)", "see(2, 1)").leaves("kinds(0)", 1).leaves("ask(0, 0)", NONE).leaves("ask(0, 1)", NONE);
+        edges.at(36, fewer, "weather(9, 4)", "roll(2, 12)", "see(3, 0)").leaves("kinds(0)", 8).leaves("ask(0, 0)", NONE).leaves("ask(0, 1)", NONE);
         edges.at(36, fewer, "set(0, 1, 5)", "roll(0, 3)", "see(1, 1)").leaves("kinds(0)", 5).leaves("ask(0, 0)", 2).leaves("ask(0, 1)", 1);
         edges.at(36, fewer, "roll(0, 1)", "roll(0, 5)").leaves("ask(0, 0)", 5).leaves("ask(0, 1)", 2);
         edges.at(36, fewer, "roll(0, 1)", "roll(1, 5)").leaves("ask(0, 0)", NONE).is("clear(1)", 2).leaves("ask(0, 0)", 1).leaves("ask(0, 1)", 2);
@@ -203,6 +205,11 @@ public final class EdgesOfSaltAndSeenTest {
                 edge.leaves("drift(" + seeds[s] + ", " + numbers[k] + ", 0)", standing[s][k]).leaves("drift(" + seeds[s] + ", " + numbers[k] + ", 1)", sizes[s][k]);
             }
         }
+        String wind = "in that DAY WARMTH is got modulo 10, WIND is got by 16 (down) modulo 9";
+        edges.at(37, wind, "tell(powder 4 20;powder 3 20;powder 3 21;powder 2 21;)").leaves("drift(0, 1, 0)", 5).leaves("drift(0, 1, 1)", 7);
+        edges.at(37, wind, "tell(powder 12 20;powder 11 20;powder 11 19;powder 10 19;)").leaves("drift(1, 1, 0)", 5).leaves("drift(1, 1, 1)", 7);
+        edges.at(37, wind, "tell(powder 12 22;powder 11 22;powder 10 18;powder 9 18;)").leaves("drift(-1, 1, 0)", 5).leaves("drift(-1, 1, 1)", 4);
+        edges.at(37, wind, "tell(powder 7 20;powder 6 20;powder 6 19;powder 5 19;)").leaves("drift(7, 1, 0)", 5).leaves("drift(7, 1, 1)", 5);
         edges.at(37, "(in place of those of the week)", "weather(9, 8)", "roll(0, 99)").leaves("drift(0, 1, 1)", 99).leaves("drift(0, 2, 1)", 91);
     }
 }

@@ -158,6 +158,11 @@ public final class EdgesOfTextTest {
         faulty(longest, "powders 5 6;", 0, 2);
         faulty(longest, "ice 5 6;", 0, 2);
         faulty(longest, "pack 5 6;", 0, 2);
+        for (String name : new String[] {"powder", "packed", "wet", "iced", "day"}) {
+            for (int k = 0; k < name.length(); k++) {
+                faulty("2 a TOKEN that can not stand there (a NAME that begins no line", name.substring(0, k) + "x" + name.substring(k + 1) + " 1 1 1;", 0, 2);
+            }
+        }
     }
 
     private static void lines() {
