@@ -50,7 +50,6 @@ public final class SnowReign {
     private final Row[] salted;
     private final int[][] decrees;
 
-    private final Tape tape;
     private final TextReader reader;
     private int textFault;
 
@@ -73,8 +72,7 @@ public final class SnowReign {
             salted[k] = new Row();
         }
         decrees = new int[ICED + 1][MOST_DAYS_SEEN + 1];
-        tape = new Tape();
-        reader = new TextReader(tape);
+        reader = new TextReader();
         seenDays = new int[MOST_SEEN];
         seenDecrees = new int[MOST_SEEN];
         images = new Province[IMAGES];
@@ -94,6 +92,7 @@ public final class SnowReign {
         if (!within(c, MOST_BYTE)) {
             return BAD;
         }
+        Tape tape = reader.tape;
         if (tape.length >= TAPE_BYTES) {
             return FULL;
         }
@@ -102,6 +101,7 @@ public final class SnowReign {
     }
 
     public int end(int n) {
+        Tape tape = reader.tape;
         if (!within(n, tape.length)) {
             return BAD;
         }
@@ -112,7 +112,7 @@ public final class SnowReign {
 
     public int text() {
         reader.readAll();
-        tape.length = 0;
+        reader.tape.length = 0;
         textFault = reader.fault;
         if (textFault != 0) {
             return -10 - reader.faultPlace;
@@ -594,7 +594,7 @@ public final class SnowReign {
             case 1:
                 return (kept[0] ? 1 : 0) + (kept[1] ? 1 : 0);
             case 2:
-                return tape.length;
+                return reader.tape.length;
             case 3:
                 return sheets[0].lane == NOTHING ? NONE : sheets[0].length;
             case 4:
@@ -689,39 +689,39 @@ public final class SnowReign {
             ways *= SALT_ODDS;
         }
         salted[0].copyOf(now.row);
-        return fraction(weighed(0, v, n, bySize), ways, what);
+        return fraction(weighed(salted, now, 0, v, n, bySize), ways, what);
     }
 
-    private long weighed(int depth, int v, int n, boolean bySize) {
-        Row row = salted[depth];
+    private static long weighed(Row[] rows, Province from, int depth, int v, int n, boolean bySize) {
+        Row row = rows[depth];
         // Where nobody reigns nothing is left, and nobody ever will: both weights are 0 from there on.
         if (row.reigning() == NONE) {
             return 0;
         }
-        if (depth >= n || depth >= MOST_SALT_DAYS) {
+        if (depth >= n || depth + 1 >= rows.length) {
             return bySize ? row.sizeOfAll() : 1;
         }
         long sum = 0;
         if (v > 0) {
-            passSalted(depth, true);
-            sum += v * weighed(depth + 1, v, n, bySize);
+            passSalted(rows, from, depth, true);
+            sum += v * weighed(rows, from, depth + 1, v, n, bySize);
         }
         if (v < SALT_ODDS) {
-            passSalted(depth, false);
-            sum += (SALT_ODDS - v) * weighed(depth + 1, v, n, bySize);
+            passSalted(rows, from, depth, false);
+            sum += (SALT_ODDS - v) * weighed(rows, from, depth + 1, v, n, bySize);
         }
         return sum;
     }
 
-    private void passSalted(int depth, boolean isSalted) {
-        Row next = salted[depth + 1];
-        next.copyOf(salted[depth]);
+    private static void passSalted(Row[] rows, Province from, int depth, boolean isSalted) {
+        Row next = rows[depth + 1];
+        next.copyOf(rows[depth]);
         int reigning = next.reigning();
         if (isSalted && reigning != NONE) {
             next.figures[reigning].halve();
         }
-        int d = (now.day + depth) % WEEK_DAYS;
-        next.pass(now.warmth[d], now.wind[d]);
+        int d = (from.day + depth) % WEEK_DAYS;
+        next.pass(from.warmth[d], from.wind[d]);
     }
 
     private int fittingBits(int i, int which, int most) {
@@ -1113,8 +1113,8 @@ public final class SnowReign {
         int faultPlace;
         private int daysTold;
 
-        TextReader(Tape tape) {
-            this.tape = tape;
+        TextReader() {
+            tape = new Tape();
             draft = new Province();
         }
 

@@ -101,21 +101,30 @@ public final class RulesTest {
             due.isTrue(library.group(), Set.of("max", "min", "abs", "bitCount", "fill", "arraycopy").contains(library.group(2)));
         }
         due.isTrue("signs 1 to 127 alone", whole.chars().allMatch(c -> c >= 1 && c <= 127));
-        lengths(code);
+        due.isTrue("rule 12: a constructor hands out nothing of what it makes", !Pattern.compile("\\bnew [A-Z]\\w*\\([^)]").matcher(code).find());
+        methods(code);
     }
 
     /** A method begins with a line that opens a brace behind a parameter list, and ends with the brace of the same column. */
-    private static void lengths(String code) {
+    private static void methods(String code) {
         String[] lines = code.split("\n");
+        Pattern head = Pattern.compile("^( {4}| {8})(?:public |private |static |final )*[\\w\\[\\]]+(?: (\\w+))?\\(.*\\) \\{$");
+        int found = 0;
         for (int from = 0; from < lines.length; from++) {
-            Matcher head = Pattern.compile("^( {4}| {8})(?:public |private |static |final )*[\\w\\[\\]]+(?: \\w+)?\\(.*\\) \\{$").matcher(lines[from]);
-            if (head.matches()) {
+            Matcher begun = head.matcher(lines[from]);
+            if (begun.matches()) {
                 int to = from;
-                while (to < lines.length && !lines[to].equals(head.group(1) + "}")) {
+                while (to < lines.length && !lines[to].equals(begun.group(1) + "}")) {
                     to++;
                 }
-                due.isTrue("at most sixty lines: " + lines[from].trim(), to - from < 60);
+                found++;
+                due.isTrue("rule 11: at most sixty lines: " + lines[from].trim(), to - from < 60);
+                String body = String.join("\n", List.of(lines).subList(from + 1, to));
+                boolean callsItself = begun.group(2) != null && Pattern.compile("(?<![.\\w])" + begun.group(2) + "\\(").matcher(body).find();
+                due.isTrue("rule 8: a method that calls itself is private static: " + lines[from].trim(),
+                    !callsItself || lines[from].contains("private static "));
             }
         }
+        due.isTrue("the methods were found", found > 80);
     }
 }
